@@ -1083,7 +1083,8 @@ public final class PatternLibrary {
             for (int index = text.start(); index < text.end(); index++) {
                 char character = text.character(index);
                 if (Text.endsFactor(before) && (isLetter(character) || character == '(')) {
-                    takeOperator(JOINT);
+                    flush(level(JOINT));
+                    push(JOINT);
                 }
                 takeCharacter(character);
                 before = character;
@@ -1117,13 +1118,9 @@ public final class PatternLibrary {
                 flush(level(BAR));
                 pop();
             } else if (character == BAR) {
-                takeOperator(BAR);
+                flush(level(BAR));
+                push(BAR);
             }
-        }
-
-        private void takeOperator(char operator) {
-            flush(level(operator));
-            push(operator);
         }
 
         private void flush(int lowest) {

@@ -8,15 +8,25 @@ final class Check {
 
     private static int made = 0;
     private static int wrong = 0;
+    private static String place = "";
 
     private Check() {
+    }
+
+    /** What is checked from now on is told as being there. */
+    static void at(String name) {
+        place = name.isEmpty() ? "" : name + ": ";
+    }
+
+    static int made() {
+        return made;
     }
 
     static void same(String what, Object got, Object due) {
         made++;
         if (!Objects.equals(got, due)) {
             wrong++;
-            System.out.println(what + ": answered " + got + ", due is " + due);
+            System.out.println(place + what + ": answered " + got + ", due is " + due);
         }
     }
 

@@ -72,13 +72,18 @@ final class FaceTest {
                 Check.same(member.getName() + " is private", Modifier.isPrivate(member.getModifiers()), true);
             }
         }
+        for (Method method : PatternLibrary.class.getDeclaredMethods()) {
+            boolean hidden = Modifier.isPrivate(method.getModifiers());
+            Check.same(method.getName() + " is no public name", hidden && publicNames.contains(method.getName()), false);
+        }
         int classes = 1;
         for (Class<?> inner : PatternLibrary.class.getDeclaredClasses()) {
             classes++;
             Check.same(inner + " is static", Modifier.isStatic(inner.getModifiers()), true);
             Check.same(inner + " has some twenty fields", fields(inner) <= 20, true);
             for (Method method : inner.getDeclaredMethods()) {
-                Check.same(inner + "." + method.getName() + " is no public name", publicNames.contains(method.getName()), false);
+                boolean hidden = Modifier.isPrivate(method.getModifiers());
+                Check.same(inner + "." + method.getName() + " is no public name", hidden && publicNames.contains(method.getName()), false);
             }
         }
         Check.same("some twelve classes", classes <= 12, true);
@@ -99,16 +104,18 @@ final class FaceTest {
 
     private static void words() throws Exception {
         String code = Files.readString(SOURCE).replaceAll("(?s)/\\*.*?\\*/|//[^\\n]*", "").replaceAll("\"[^\"\\n]*\"", "\"\"");
-        String[] wrong = {"\\btry\\b", "\\bcatch\\b", "\\bfinally\\b", "\\bassert\\b", "\\bsynchronized\\b", "->", "::", "\\bMath\\.\\w+Exact\\b",
-            "\\bvar\\b", "\\bpackage\\b", "\\bSystem\\.(?!arraycopy\\()", "\\bString\\.", "\\bCharacter\\.", "\\bhashCode\\b", "\\btoString\\b",
-            "\\bthrows? (?!IndexOutOf|IllegalA|IllegalS|NoSuchE|Arith|new (IndexOutOf|IllegalA|IllegalS|NoSuchE|Arith))"};
+        String thrown = "(IndexOutOfBounds|IllegalArgument|IllegalState|NoSuchElement|Arithmetic|UnsupportedOperation|Runtime)Exception";
+        String[] wrong = {"\\bfinally\\b", "\\bassert\\b", "\\bsynchronized\\b", "\\) ->", "::", "\\b(Math|Integer|Long)\\.\\w+Exact\\b",
+            "\\bvar\\b", "\\bpackage\\b", "\\bSystem\\.(?!arraycopy\\()", "\\bString\\.", "\\bCharacter\\.", "\\bhashCode\\b", "\\bThread\\b",
+            "\\bthrow (?!new " + thrown + "\\()", "\\bthrows (?!" + thrown + ")", "\\bcatch \\((?!" + thrown + " )", "\\bstatic \\{"};
         for (String one : wrong) {
             Matcher matcher = Pattern.compile(one).matcher(code);
             Check.same("the source has no " + one, matcher.find() ? matcher.group() : "", "");
         }
         Matcher imports = Pattern.compile("\\bimport (.*);").matcher(code);
         while (imports.find()) {
-            Check.same("import", List.of("java.util.Arrays", "java.util.NoSuchElementException").contains(imports.group(1)), true);
+            String name = imports.group(1);
+            Check.same("import of " + name, name.matches("java\\.util\\.(Arrays|ArrayList|Iterator|List|NoSuchElementException)"), true);
         }
     }
 }

@@ -1,3 +1,6 @@
+import java.util.ArrayList;
+import java.util.List;
+
 /** Short ways to use a library in tests. */
 final class Use {
     private Use() {
@@ -63,6 +66,29 @@ final class Use {
         return word.toString();
     }
 
+    /** All words of the letters up to a length that a pattern accepts, shorter ones first; "-" is the empty one. */
+    static String accepted(String pattern, int most) {
+        PatternLibrary library = library(pattern);
+        StringBuilder accepted = new StringBuilder();
+        for (String word : words(most)) {
+            library.clearBuffer();
+            if (type(library, word).matches(0)) {
+                accepted.append(accepted.length() == 0 ? "" : " ").append(word.isEmpty() ? "-" : word);
+            }
+        }
+        return accepted.toString();
+    }
+
+    private static List<String> words(int most) {
+        List<String> words = new ArrayList<>(List.of(""));
+        for (int index = 0; index < words.size() && words.get(index).length() < most; index++) {
+            for (String letter : new String[] {"a", "b", "c"}) {
+                words.add(words.get(index) + letter);
+            }
+        }
+        return words;
+    }
+
     /** What changes can change. */
     static String shelf(PatternLibrary library) {
         StringBuilder all = new StringBuilder();
@@ -87,12 +113,12 @@ final class Use {
             all.append("\nundo ").append(library.undo()).append(": ").append(shelf(library));
         }
         all.append("\nrestore ").append(Check.answer(library::restore)).append(": ").append(shelf(library));
-        all.append("\nbuffer ").append(buffer(library));
+        all.append("\nbuffer ").append(bufferedPattern(library));
         return all.toString();
     }
 
     /** The buffer, as far as its size, matching it and reading it as the start of a pattern tell it; uses it up. */
-    private static String buffer(PatternLibrary library) {
+    private static String bufferedPattern(PatternLibrary library) {
         StringBuilder told = new StringBuilder();
         told.append(Check.answer(() -> library.matches(firstPattern(library))));
         told.append(' ').append(Check.answer(() -> library.append('|')));
@@ -100,6 +126,15 @@ final class Use {
         told.append(' ').append(Check.answer(library::errorPosition));
         told.append(' ').append(library.clearBuffer());
         return told.toString();
+    }
+
+    /** The buffer, as far as adding it to the sample words tells it; uses them and it up. */
+    static String bufferedWord(PatternLibrary library) {
+        while (library.wordCount() > 0) {
+            library.removeWord(0);
+        }
+        String answer = Check.answer(library::addWord);
+        return library.wordCount() == 1 ? word(library, 0) : answer;
     }
 
     private static int firstPattern(PatternLibrary library) {
