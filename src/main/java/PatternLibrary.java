@@ -1532,12 +1532,12 @@ public final class PatternLibrary {
         /** Puts the states together that are alike in the classes so far, and answers how many classes that makes. */
         private int divide(Automaton automaton, int states) {
             int found = 0;
-            for (int state = 0; state < states; state++) {
+            for (int state = 0; state < states && state < MOST_STATES; state++) {
                 int number = 0;
-                while (number < found && !areAlike(automaton, heads[number], state)) {
+                while (number < found && number < MOST_STATES && !areAlike(automaton, heads[number], state)) {
                     number++;
                 }
-                if (number == found) {
+                if (number == found && found < MOST_STATES) {
                     heads[found] = state;
                     found++;
                 }

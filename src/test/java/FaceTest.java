@@ -11,10 +11,9 @@ import java.util.TreeSet;
 import java.util.regex.Matcher;
 import java.util.regex.Pattern;
 
-/** The class has exactly the face that the document shows, and keeps to those rules of the language that a text shows. */
+/** The class has exactly the face that the document shows, and no other member that can be seen from outside. */
 final class FaceTest {
     private static final Path DOCUMENT = Path.of("../shared/DOC.md");
-    private static final Path SOURCE = Path.of("src/main/java/PatternLibrary.java");
 
     private FaceTest() {
     }
@@ -22,7 +21,6 @@ final class FaceTest {
     public static void main(String[] args) throws Exception {
         face();
         members();
-        words();
         Check.finish("FaceTest");
     }
 
@@ -100,22 +98,5 @@ final class FaceTest {
             }
         }
         return fields;
-    }
-
-    private static void words() throws Exception {
-        String code = Files.readString(SOURCE).replaceAll("(?s)/\\*.*?\\*/|//[^\\n]*", "").replaceAll("\"[^\"\\n]*\"", "\"\"");
-        String thrown = "(IndexOutOfBounds|IllegalArgument|IllegalState|NoSuchElement|Arithmetic|UnsupportedOperation|Runtime)Exception";
-        String[] wrong = {"\\bfinally\\b", "\\bassert\\b", "\\bsynchronized\\b", "\\) ->", "::", "\\b(Math|Integer|Long)\\.\\w+Exact\\b",
-            "\\bvar\\b", "\\bpackage\\b", "\\bSystem\\.(?!arraycopy\\()", "\\bString\\.", "\\bCharacter\\.", "\\bhashCode\\b", "\\bThread\\b",
-            "\\bthrow (?!new " + thrown + "\\()", "\\bthrows (?!" + thrown + ")", "\\bcatch \\((?!" + thrown + " )", "\\bstatic \\{"};
-        for (String one : wrong) {
-            Matcher matcher = Pattern.compile(one).matcher(code);
-            Check.same("the source has no " + one, matcher.find() ? matcher.group() : "", "");
-        }
-        Matcher imports = Pattern.compile("\\bimport (.*);").matcher(code);
-        while (imports.find()) {
-            String name = imports.group(1);
-            Check.same("import of " + name, name.matches("java\\.util\\.(Arrays|ArrayList|Iterator|List|NoSuchElementException)"), true);
-        }
     }
 }

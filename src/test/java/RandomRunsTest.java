@@ -87,6 +87,10 @@ final class RandomRunsTest {
     }
 
     private boolean call(String name, Object... arguments) throws ReflectiveOperationException {
+        // What calls beyond these answer is free.
+        if (calls == CALLS) {
+            return true;
+        }
         calls++;
         Method method = null;
         for (Method one : methods) {
